@@ -72,6 +72,7 @@ public final class DateTests {
         Probe.is(Probe.NUM, 101, 9999, -100000, 1);
         Probe.is(day(LocalDate.of(2000, 1, 1).plusDays(99999)), 101, 2000, 1, 100000);
         Probe.is(Probe.NUM, 101, 2000, 1, -100000);
+        Probe.is(day(LocalDate.of(2300, 1, 1).minusDays(100001)), 101, 2300, 1, -100000);
         Probe.is(day(LocalDate.of(1999, 11, 30)), 101, 2000.9, Probe.LEFT_OUT, Probe.LEFT_OUT);
         Probe.is(Probe.VALUE, 101, -1, "x", Probe.NA);
         Probe.is(Probe.NA, 101, -1, 1, Probe.NA);
@@ -100,6 +101,8 @@ public final class DateTests {
         Probe.is(1, 108, 0.5 / 86400.0);
         Probe.is(0, 108, 0.49 / 86400.0);
         Probe.is(34, 108, 45292.5 + 34.4 / 86400.0);
+        Probe.is(59, 108, 86399.45 / 86400.0);
+        Probe.is(0, 108, 86399.55 / 86400.0);
     }
 
     private static void weeks() {
@@ -197,6 +200,8 @@ public final class DateTests {
         Probe.is(1, 115, 45293, 45293, "45293");
         Probe.is(1, 115, 45293, 45293, Probe.grid(1, 4, Probe.NA, true, -7, 9E299));
         Probe.is(22, 115, 45292, 45322, Probe.grid(1, 3, Probe.NA, 45293, Probe.EMPTY));
+        Probe.is(5, 115, 2, 6, Probe.grid(1, 5, Probe.DIV0, Probe.VALUE, Probe.REF, Probe.NAME,
+                Probe.NUM));
         Probe.is(Probe.NUM, 115, 45292, LAST + 1, Probe.NA);
         Probe.is(Probe.NUM, 115, -1, Probe.NA);
         Probe.is(Probe.NA, 115, 1, Probe.NA);
@@ -218,6 +223,7 @@ public final class DateTests {
         Probe.is(139999, 116, 0, 100000);
         Probe.is(Probe.NUM, 116, 0, 100001);
         Probe.is(Probe.NUM, 116, LAST, -100001);
+        Probe.is(LAST - 140000, 116, LAST, -100000);
         Probe.is(Probe.NA, 116, 1, Probe.NA);
         Probe.is(Probe.NUM, 116, -1, Probe.NA);
     }

@@ -127,6 +127,7 @@ public final class LookUpTests {
         Probe.is(5, 92, 2, Probe.grid(2, 3, 1, 2, 3, 4, 5, 6));
         Probe.is(4, 92, 3, Probe.grid(3, 2, 1, 2, 3, 4, 5, 6));
         Probe.is(4, 92, 3, Probe.grid(2, 2, 1, 2, 3, 4));
+        Probe.is(2, 92, 2, Probe.grid(2, 2, 1, 2, 3, 4));
         Probe.is(Probe.NA, 92, 1, Probe.LEFT_OUT);
         Probe.is(Probe.REF, 92, Probe.REF, row, Probe.NA);
         Probe.is(Probe.DIV0, 92, 1, row, Probe.grid(1, 2, Probe.DIV0, Probe.NA));
@@ -223,7 +224,8 @@ public final class LookUpTests {
         Probe.is("Sheet 1!R3C2", 99, 3, 2, 1, false, "Sheet 1");
         Probe.is("1.5!$B$3", 99, 3, 2, 1, 1, 1.5);
         Object[][] columns = {{1, "A"}, {26, "Z"}, {27, "AA"}, {52, "AZ"}, {53, "BA"},
-            {702, "ZZ"}, {703, "AAA"}, {728, "AAZ"}, {729, "ABA"}, {16384, "XFD"}};
+            {702, "ZZ"}, {703, "AAA"}, {728, "AAZ"}, {729, "ABA"}, {1378, "AZZ"},
+            {1379, "BAA"}, {16224, "WYZ"}, {16225, "WZA"}, {16384, "XFD"}};
         for (Object[] row : columns) {
             Probe.is(row[1] + "1048576", 99, 1048576, row[0], 4);
         }

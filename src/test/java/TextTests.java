@@ -20,8 +20,7 @@ public final class TextTests {
     }
 
     private static void numbersOfValues() {
-        // DAYS and BASE hide fractions: TEXTJOIN's truth and ISEVEN hide more, so TIME's seconds and
-        // the fraction of HOUR tell them; BASE tells wholes of any size.
+        // BASE takes any number but hides its fraction: HOUR, MINUTE and SECOND tell that.
         Probe.is("0", 88, Probe.EMPTY, 10);
         Probe.is("1", 88, true, 10);
         Probe.is("0", 88, false, 10);
@@ -240,6 +239,7 @@ public final class TextTests {
         Probe.is("Hello World'S 2Nd-Day", 77, "hELLO wORLD's 2nd-day");
         Probe.is("\u00E4A", 77, "\u00E4a");
         Probe.is("True", 77, true);
+        Probe.is("Aaa Zzz [A@A`A{A", 77, "AAa ZZz [A@A`A{A");
         Probe.is("a b c", 78, "  a   b c ");
         Probe.is("", 78, "   ");
         Probe.is("", 78, "");
