@@ -250,7 +250,7 @@ public final class DateTests {
         WordFunctions x = new WordFunctions();
         LocalDate date = ORIGIN;
         for (int day = 0; day <= LAST; day++) {
-            if (day % 30 == 0) {
+            if (day % 28 == 0) {
                 x = new WordFunctions();
             }
             boolean right = number(x, 103, day) == date.getYear()

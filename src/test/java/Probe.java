@@ -1,7 +1,10 @@
 import java.util.ArrayList;
 import java.util.List;
 
-/** Calls functions of a new WordFunctions with Java values, and counts the answers not due. */
+/**
+ * Calls functions of a WordFunctions with Java values, and counts the answers not due. Every
+ * answer is asked twice: of a new object, and of one that other calls went before.
+ */
 final class Probe {
     static final String LEFT_OUT = new String("left out");
     static final String EMPTY = new String("empty");
@@ -13,8 +16,14 @@ final class Probe {
     static final Err NUM = new Err(6);
     static final Err NA = new Err(7);
 
+    // No more is promised of an object.
+    private static final int MOST_CALLS = 512;
+
     private static int wrong;
     private static int checks;
+    private static int calls;
+    private static WordFunctions used = new WordFunctions();
+    private static int usedCalls;
 
     record Err(int number) { }
 
@@ -50,15 +59,18 @@ final class Probe {
                 int c = at + k < text.length() ? text.charAt(at + k) : 0;
                 words[k / 4] |= c << (24 - 8 * (k % 4));
             }
+            calls++;
             if (!x.feed(words[0], words[1], words[2], words[3], words[4])) {
                 return false;
             }
         }
+        calls++;
         return x.end(text.length());
     }
 
     static void set(WordFunctions x, int i, Object value) {
         boolean done;
+        calls++;
         if (value == EMPTY) {
             done = x.put(i, 0, 0.0);
         } else if (value instanceof Number n) {
@@ -76,6 +88,7 @@ final class Probe {
     }
 
     static void give(WordFunctions x, Object argument) {
+        calls++;
         if (argument == LEFT_OUT) {
             x.argument(0, 0);
         } else if (argument instanceof Grid g) {
@@ -85,6 +98,7 @@ final class Probe {
                     set(x, i, g.values[i]);
                 }
             }
+            calls++;
             if (g.sheetRow > 0 && !x.range(g.sheetRow, g.sheetColumn)) {
                 throw new IllegalStateException("a range of the test is none");
             }
@@ -97,6 +111,7 @@ final class Probe {
     /** The value that is told, of this kind, as a text. */
     static String told(WordFunctions x, int kind) {
         double value = x.value();
+        calls++;
         switch (kind) {
             case 0: return value == 0.0 ? "EMPTY" : "EMPTY with a number";
             case 1: return "number " + (value + 0.0);
@@ -109,23 +124,37 @@ final class Probe {
 
     private static String letters(WordFunctions x, double length) {
         StringBuilder b = new StringBuilder();
-        for (int k = 0; x.letter(k) != WordFunctions.NONE && k < 1000; k++) {
-            b.append((char) x.letter(k));
+        int letter = x.letter(0);
+        while (letter != WordFunctions.NONE && b.length() < 300) {
+            b.append((char) letter);
+            letter = x.letter(b.length());
         }
+        calls += b.length() + 1;
         return b.length() == length ? b.toString() : b + " with length " + length;
+    }
+
+    // Of a large grid some values only, so that an object is not asked too often.
+    private static boolean isLookedAt(int k, int many) {
+        return many <= 100 || k % 7 == 0 || k == many - 1;
     }
 
     static String answerOf(WordFunctions x, int kind) {
         int rows = x.size(false);
         int columns = x.size(true);
+        calls += 2;
         if (rows == 1 && columns == 1) {
             String told = told(x, kind);
-            return x.look(0, 0) == kind && told(x, kind).equals(told) ? told : "not one value";
+            double value = x.value();
+            int letter = x.letter(0);
+            calls += 5;
+            boolean same = x.look(0, 0) == kind && x.value() == value && x.letter(0) == letter;
+            return same ? told : "not one value";
         }
         List<String> all = new ArrayList<>();
-        for (int row = 0; row < rows; row++) {
-            for (int column = 0; column < columns; column++) {
-                all.add(told(x, x.look(row, column)));
+        for (int k = 0; k < rows * columns; k++) {
+            if (isLookedAt(k, rows * columns)) {
+                calls++;
+                all.add(told(x, x.look(k / columns, k % columns)));
             }
         }
         return (kind == 64 ? "" : "kind " + kind + " of ") + rows + " x " + columns + " " + all;
@@ -134,8 +163,10 @@ final class Probe {
     private static String due(Object value) {
         if (value instanceof Grid g) {
             List<String> all = new ArrayList<>();
-            for (Object v : g.values) {
-                all.add(due(v));
+            for (int k = 0; k < g.values.length; k++) {
+                if (isLookedAt(k, g.values.length)) {
+                    all.add(due(g.values[k]));
+                }
             }
             return g.rows + " x " + g.columns + " " + all;
         }
@@ -152,11 +183,27 @@ final class Probe {
     }
 
     static String answer(int function, Object... arguments) {
-        WordFunctions x = new WordFunctions();
+        int before = calls;
+        String answer = answerOn(new WordFunctions(), function, arguments);
+        int count = calls - before;
+        if (count > MOST_CALLS) {
+            throw new IllegalStateException("the test asks an object too often");
+        }
+        if (usedCalls + count > MOST_CALLS) {
+            used = new WordFunctions();
+            usedCalls = 0;
+        }
+        usedCalls += count;
+        String again = answerOn(used, function, arguments);
+        return again.equals(answer) ? answer : answer + ", behind other calls " + again;
+    }
+
+    private static String answerOn(WordFunctions x, int function, Object... arguments) {
         x.home(7, 5);
         for (Object argument : arguments) {
             give(x, argument);
         }
+        calls += 2;
         return answerOf(x, x.call(function));
     }
 

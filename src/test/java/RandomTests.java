@@ -135,9 +135,9 @@ public final class RandomTests {
     // are within their bounds.
     private static void anyCalls() {
         Random random = new Random(15);
-        for (int run = 0; run < 20000; run++) {
+        for (int run = 0; run < 40000; run++) {
             WordFunctions x = new WordFunctions();
-            for (int k = 0; k < 120; k++) {
+            for (int k = 0; k < 55; k++) {
                 anyCall(x, random);
             }
         }
