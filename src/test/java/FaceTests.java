@@ -1,8 +1,17 @@
-/** Promises 1 to 13: what every call does, apart from what each function answers. */
+import java.lang.reflect.Constructor;
+import java.lang.reflect.Field;
+import java.lang.reflect.Method;
+import java.lang.reflect.Modifier;
+import java.util.Arrays;
+import java.util.Set;
+import java.util.TreeSet;
+
+/** The public face, and promises 1 to 13 but for what each function answers. */
 public final class FaceTests {
     private FaceTests() { }
 
     public static void main(String[] args) {
+        face();
         aNewObject();
         feed();
         end();
@@ -21,6 +30,48 @@ public final class FaceTests {
         value();
         letter();
         Probe.finish("FaceTests");
+    }
+
+    // The members that there are, and no others that aren't private.
+    private static void face() {
+        Class<WordFunctions> all = WordFunctions.class;
+        Set<String> members = new TreeSet<>();
+        for (Constructor<?> constructor : all.getDeclaredConstructors()) {
+            if (!Modifier.isPrivate(constructor.getModifiers())) {
+                members.add(constructor.toString());
+            }
+        }
+        for (Field field : all.getDeclaredFields()) {
+            if (!Modifier.isPrivate(field.getModifiers())) {
+                members.add(field.toString());
+            }
+        }
+        for (Method method : all.getDeclaredMethods()) {
+            if (!Modifier.isPrivate(method.getModifiers())) {
+                members.add(method.toString().replace("java.lang.", ""));
+            }
+        }
+        Set<String> due = new TreeSet<>(Arrays.asList(
+                "public static final int WordFunctions.NONE",
+                "public WordFunctions()",
+                "public boolean WordFunctions.feed(int,int,int,int,int)",
+                "public boolean WordFunctions.end(int)",
+                "public boolean WordFunctions.home(int,int)",
+                "public void WordFunctions.argument(int,int)"
+                        + " throws IllegalArgumentException,IllegalStateException",
+                "public boolean WordFunctions.range(int,int)",
+                "public boolean WordFunctions.put(int,int,double)",
+                "public boolean WordFunctions.putText(int)",
+                "public int WordFunctions.call(int) throws IllegalArgumentException",
+                "public int WordFunctions.size(boolean)",
+                "public int WordFunctions.look(int,int)",
+                "public double WordFunctions.value()",
+                "public int WordFunctions.letter(int)"));
+        Probe.same("face: the members", members, due);
+        Probe.same("face: the class", Modifier.toString(all.getModifiers()), "public final");
+        Probe.same("face: what it extends", all.getSuperclass(), Object.class);
+        Probe.same("face: what it implements", all.getInterfaces().length, 0);
+        Probe.same("face: public classes inside", all.getClasses().length, 0);
     }
 
     private static void aNewObject() {
